@@ -13,6 +13,7 @@ public final class PromiseTest {
         promise3Write();
         promise3WriteRefuses();
         promise3WriteOrder();
+        promise3WordsInOrder();
         promise3WriteCopiesWhatIsBeside();
         promise3WriteOfNothingNew();
         promise4Read();
@@ -161,6 +162,15 @@ public final class PromiseTest {
         Check.due("3: all writes done before the crash", s.write(0, 0, 9), 0);
         Check.due("3: not down by then", s.down(), false);
         Check.due("3: the next write is lost", s.write(0, 0, 9), HashedStore.DOWN);
+    }
+
+    private static void promise3WordsInOrder() {
+        HashedStore s = small();
+        s.write(0, 1, 5);
+        s.crashAfter(1);
+        Check.due("3: two words differ, one is lost", s.write(1, 0, 6), HashedStore.DOWN);
+        Check.due("3: the first one was written", s.peek(1), 5);
+        Check.due("3: the second one was lost", s.peek(2), 0);
     }
 
     private static void promise3WriteCopiesWhatIsBeside() {
