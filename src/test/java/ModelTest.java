@@ -1,6 +1,10 @@
 import java.util.Random;
 
-/** Long runs of calls, the program beside the model, the whole disk compared behind each call. */
+/**
+ * Long runs of calls, the program beside the model, the whole disk compared behind each call. The
+ * document leaves free what is answered after 512 calls; the comparing goes beyond that, since the
+ * program counts no calls.
+ */
 public final class ModelTest {
     private static final int RUNS_PER_SHAPE = 6;
     private static final int CALLS = 512;

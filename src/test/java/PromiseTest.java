@@ -32,27 +32,6 @@ public final class PromiseTest {
         Check.finish();
     }
 
-    /** Two blocks of two words: words are cells 0 to 3, nodes 1 to 3 are cells 4 to 6. */
-    private static HashedStore small() {
-        return new HashedStore(1, 2);
-    }
-
-    private static int leaf(int b, int word0, int word1) {
-        return Model.mix(Model.mix(b, word0), word1);
-    }
-
-    private static int rootOf(int a, int b, int c, int d) {
-        return Model.mix(leaf(0, a, b), leaf(1, c, d));
-    }
-
-    /** Down in its first write, of 9 to word 0 of block 0, with so many writes done. */
-    private static HashedStore downAfter(int writes) {
-        HashedStore s = small();
-        s.crashAfter(writes);
-        Check.due("write that crashes after " + writes, s.write(0, 0, 9), HashedStore.DOWN);
-        return s;
-    }
-
     private static void promise1ANewObject() {
         int[][] shapes = {
             {0, 1, 0, 1}, {5, 6, 5, 6}, {3, 4, 3, 4},
@@ -67,38 +46,26 @@ public final class PromiseTest {
             Check.due(name + "word behind", s.read(0, shape[3]), HashedStore.BAD);
             Check.due(name + "audit", s.audit(), HashedStore.NONE);
         }
-        checkFormatted("1: new ", small());
-    }
-
-    private static void checkFormatted(String name, HashedStore s) {
-        int[] cells = {0, 0, 0, 0, rootOf(0, 0, 0, 0), leaf(0, 0, 0), leaf(1, 0, 0), 0, 0, 0, 0, 0, 0, 0};
-        for (int addr = 0; addr < cells.length; addr++) {
-            Check.due(name + "peek(" + addr + ")", s.peek(addr), cells[addr]);
-        }
-        Check.due(name + "root", s.root(), rootOf(0, 0, 0, 0));
-        Check.due(name + "slot", s.slot(), 0);
-        Check.due(name + "writes", s.writes(), 0);
-        Check.due(name + "down", s.down(), false);
-        Check.due(name + "audit", s.audit(), HashedStore.NONE);
+        Small.checkFormatted("1: new ", Small.store());
     }
 
     private static void promise2Format() {
-        HashedStore s = small();
+        HashedStore s = Small.store();
         s.write(0, 1, 5);
         s.tamper(12, 77);
         Check.due("2: format", s.format(), 0);
-        checkFormatted("2: formatted ", s);
+        Small.checkFormatted("2: formatted ", s);
         s.write(0, 1, 5);
         s.write(1, 1, 6);
         s.tamper(0, -1);
         Check.due("2: format", s.format(), 0);
-        checkFormatted("2: formatted again ", s);
+        Small.checkFormatted("2: formatted again ", s);
     }
 
     private static void promise2FormatEndsCrashAndDown() {
-        HashedStore s = downAfter(2);
+        HashedStore s = Small.downAfter(2);
         Check.due("2: format when down", s.format(), 0);
-        checkFormatted("2: formatted when down ", s);
+        Small.checkFormatted("2: formatted when down ", s);
         Check.due("2: no crash told behind it", s.write(0, 0, 9), 0);
         s.crashAfter(0);
         s.format();
@@ -106,37 +73,37 @@ public final class PromiseTest {
     }
 
     private static void promise3Write() {
-        HashedStore s = small();
+        HashedStore s = Small.store();
         Check.due("3: write", s.write(1, 0, 8), 0);
-        int[] cells = {0, 0, 8, 0, rootOf(0, 0, 8, 0), leaf(0, 0, 0), leaf(1, 8, 0)};
+        int[] cells = {0, 0, 8, 0, Small.rootOf(0, 0, 8, 0), Small.leaf(0, 0, 0), Small.leaf(1, 8, 0)};
         for (int c = 0; c < cells.length; c++) {
             Check.due("3: cell " + c + " of the other area", s.peek(7 + c), cells[c]);
         }
-        Check.due("3: the old area stays", s.peek(4), rootOf(0, 0, 0, 0));
+        Check.due("3: the old area stays", s.peek(4), Small.rootOf(0, 0, 0, 0));
         Check.due("3: the old word stays", s.peek(2), 0);
         Check.due("3: slot", s.slot(), 1);
-        Check.due("3: root", s.root(), rootOf(0, 0, 8, 0));
+        Check.due("3: root", s.root(), Small.rootOf(0, 0, 8, 0));
         Check.due("3: largest word", s.write(0, 1, MAX), 0);
         Check.due("3: back in the first area", s.slot(), 0);
-        Check.due("3: root of both", s.root(), rootOf(0, MAX, 8, 0));
+        Check.due("3: root of both", s.root(), Small.rootOf(0, MAX, 8, 0));
         Check.due("3: both words", s.read(0, 1), MAX);
         Check.due("3: both words", s.read(1, 0), 8);
     }
 
     private static void promise3WriteRefuses() {
-        HashedStore s = small();
+        HashedStore s = Small.store();
         int[][] wrong = {{-1, 0, 1}, {2, 0, 1}, {MAX, 0, 1}, {MIN, 0, 1}, {0, -1, 1}, {0, 2, 1},
             {0, MAX, 1}, {0, MIN, 1}, {0, 0, -1}, {0, 0, MIN}};
         for (int[] w : wrong) {
             Check.due("3: write of " + w[0] + " " + w[1] + " " + w[2], s.write(w[0], w[1], w[2]), HashedStore.BAD);
         }
-        checkFormatted("3: behind BAD ", s);
+        Small.checkFormatted("3: behind BAD ", s);
         s.tamper(1, 3);
         Check.due("3: BAD before CORRUPT", s.write(0, 0, -1), HashedStore.BAD);
         Check.due("3: CORRUPT", s.write(0, 0, 1), HashedStore.CORRUPT);
         s.tamper(1, 0);
-        checkFormatted("3: CORRUPT changes nothing ", s);
-        HashedStore down = downAfter(0);
+        Small.checkFormatted("3: CORRUPT changes nothing ", s);
+        HashedStore down = Small.downAfter(0);
         for (int[] w : wrong) {
             Check.due("3: BAD when down", down.write(w[0], w[1], w[2]), HashedStore.BAD);
         }
@@ -147,17 +114,17 @@ public final class PromiseTest {
     /** The writes of 9 to word 0 of block 0: the word, the leaves 3 and 2, the root. */
     private static void promise3WriteOrder() {
         int[] order = {7, 13, 12, 11};
-        int[] value = {9, leaf(1, 0, 0), leaf(0, 9, 0), rootOf(9, 0, 0, 0)};
+        int[] value = {9, Small.leaf(1, 0, 0), Small.leaf(0, 9, 0), Small.rootOf(9, 0, 0, 0)};
         for (int n = 0; n < order.length; n++) {
-            HashedStore s = downAfter(n);
+            HashedStore s = Small.downAfter(n);
             for (int k = 0; k < order.length; k++) {
                 Check.due("3: cell " + order[k] + " after " + n + " writes", s.peek(order[k]), k < n ? value[k] : 0);
             }
             Check.due("3: slot of the old area", s.slot(), 0);
-            Check.due("3: the old root", s.root(), rootOf(0, 0, 0, 0));
+            Check.due("3: the old root", s.root(), Small.rootOf(0, 0, 0, 0));
             Check.due("3: writes done", s.writes(), n);
         }
-        HashedStore s = small();
+        HashedStore s = Small.store();
         s.crashAfter(4);
         Check.due("3: all writes done before the crash", s.write(0, 0, 9), 0);
         Check.due("3: not down by then", s.down(), false);
@@ -165,7 +132,7 @@ public final class PromiseTest {
     }
 
     private static void promise3WordsInOrder() {
-        HashedStore s = small();
+        HashedStore s = Small.store();
         s.write(0, 1, 5);
         s.crashAfter(1);
         Check.due("3: two words differ, one is lost", s.write(1, 0, 6), HashedStore.DOWN);
@@ -174,19 +141,19 @@ public final class PromiseTest {
     }
 
     private static void promise3WriteCopiesWhatIsBeside() {
-        HashedStore s = small();
+        HashedStore s = Small.store();
         s.tamper(2, -4);
         s.tamper(4, 123);
         s.tamper(5, 456);
         Check.due("3: nodes on the way are not trusted", s.write(0, 0, 9), 0);
         Check.due("3: a word of another block is copied as it is", s.peek(9), -4);
-        Check.due("3: root made anew", s.peek(11), rootOf(9, 0, 0, 0));
-        Check.due("3: leaf made anew", s.peek(12), leaf(0, 9, 0));
+        Check.due("3: root made anew", s.peek(11), Small.rootOf(9, 0, 0, 0));
+        Check.due("3: leaf made anew", s.peek(12), Small.leaf(0, 9, 0));
         Check.due("3: the corrupt block stays so", s.read(1, 0), HashedStore.CORRUPT);
     }
 
     private static void promise3WriteOfNothingNew() {
-        HashedStore s = small();
+        HashedStore s = Small.store();
         s.write(0, 0, 9);
         s.write(0, 0, 9);
         int writes = s.writes();
@@ -197,7 +164,7 @@ public final class PromiseTest {
     }
 
     private static void promise4Read() {
-        HashedStore s = small();
+        HashedStore s = Small.store();
         s.write(0, 0, 4);
         s.write(1, 1, 6);
         int[] words = {4, 0, 0, 6};
@@ -211,7 +178,7 @@ public final class PromiseTest {
         Check.due("4: the other block is right", s.read(1, 1), 6);
         s.tamper(1, 0);
         Check.due("4: right again", s.read(0, 0), 4);
-        HashedStore down = downAfter(3);
+        HashedStore down = Small.downAfter(3);
         checkReadBad(down);
         Check.due("4: down", down.read(0, 0), HashedStore.DOWN);
         down.tamper(0, 3);
@@ -227,7 +194,7 @@ public final class PromiseTest {
     }
 
     private static void promise5Verify() {
-        HashedStore s = small();
+        HashedStore s = Small.store();
         Check.due("5: block 0", s.verify(0), true);
         Check.due("5: block 1", s.verify(1), true);
         int[] wrong = {-1, 2, MIN, MAX};
@@ -237,12 +204,12 @@ public final class PromiseTest {
         s.tamper(5, 1);
         Check.due("5: its own stored leaf does not matter", s.verify(0), true);
         Check.due("5: the stored leaf beside it does", s.verify(1), false);
-        s.tamper(5, leaf(0, 0, 0));
+        s.tamper(5, Small.leaf(0, 0, 0));
         s.tamper(4, 1);
         Check.due("5: the stored root does not matter", s.verify(1), true);
         s.tamper(7, 1);
         Check.due("5: the other area does not matter", s.verify(0), true);
-        Check.due("5: down", downAfter(1).verify(0), false);
+        Check.due("5: down", Small.downAfter(1).verify(0), false);
         checkWordBelowZero();
     }
 
@@ -261,22 +228,22 @@ public final class PromiseTest {
     }
 
     private static void promise6Root() {
-        HashedStore s = small();
-        Check.due("6: new", s.root(), rootOf(0, 0, 0, 0));
+        HashedStore s = Small.store();
+        Check.due("6: new", s.root(), Small.rootOf(0, 0, 0, 0));
         s.write(1, 1, 2);
-        Check.due("6: written", s.root(), rootOf(0, 0, 0, 2));
+        Check.due("6: written", s.root(), Small.rootOf(0, 0, 0, 2));
         s.tamper(11, 5);
-        Check.due("6: kept aside from the disk", s.root(), rootOf(0, 0, 0, 2));
+        Check.due("6: kept aside from the disk", s.root(), Small.rootOf(0, 0, 0, 2));
         s.tamper(7, 5);
         s.write(0, 0, 1);
-        Check.due("6: a refused write keeps it", s.root(), rootOf(0, 0, 0, 2));
+        Check.due("6: a refused write keeps it", s.root(), Small.rootOf(0, 0, 0, 2));
         s.tamper(7, 0);
         s.crashAfter(1);
         s.write(0, 0, 1);
         Check.due("6: is down", s.down(), true);
-        Check.due("6: also when down", s.root(), rootOf(0, 0, 0, 2));
+        Check.due("6: also when down", s.root(), Small.rootOf(0, 0, 0, 2));
         s.recover(1);
-        Check.due("6: a mismatch keeps it", s.root(), rootOf(0, 0, 0, 2));
+        Check.due("6: a mismatch keeps it", s.root(), Small.rootOf(0, 0, 0, 2));
     }
 
     private static void promise7Audit() {
@@ -295,11 +262,11 @@ public final class PromiseTest {
         s.tamper(4, 1);
         s.tamper(11, 1);
         Check.due("7: stored root and other area do not matter", s.audit(), HashedStore.NONE);
-        Check.due("7: down", downAfter(0).audit(), HashedStore.DOWN);
+        Check.due("7: down", Small.downAfter(0).audit(), HashedStore.DOWN);
     }
 
     private static void promise8Tamper() {
-        HashedStore s = small();
+        HashedStore s = Small.store();
         for (int addr = 0; addr < s.cells(); addr++) {
             s.tamper(addr, -100 - addr);
         }
@@ -307,12 +274,12 @@ public final class PromiseTest {
             Check.due("8: cell " + addr, s.peek(addr), -100 - addr);
         }
         Check.due("8: no write counted", s.writes(), 0);
-        HashedStore untouched = small();
+        HashedStore untouched = Small.store();
         int[] wrong = {-1, 14, MIN, MAX};
         for (int addr : wrong) {
             untouched.tamper(addr, 1);
         }
-        checkFormatted("8: none such ", untouched);
+        Small.checkFormatted("8: none such ", untouched);
         untouched.crashAfter(1);
         untouched.tamper(13, 1);
         Check.due("8: a tamper is no write for the crash", untouched.write(0, 0, 9), HashedStore.DOWN);
@@ -323,7 +290,7 @@ public final class PromiseTest {
     }
 
     private static void promise9CrashAfter() {
-        HashedStore s = small();
+        HashedStore s = Small.store();
         s.crashAfter(0);
         s.crashAfter(-1);
         s.crashAfter(MIN);
@@ -333,7 +300,7 @@ public final class PromiseTest {
         s.recover(s.root());
         Check.due("9: no crash told when down", s.write(0, 0, 9), 0);
 
-        HashedStore again = small();
+        HashedStore again = Small.store();
         again.crashAfter(0);
         again.crashAfter(4);
         Check.due("9: told again, anew", again.write(0, 0, 9), 0);
@@ -343,25 +310,25 @@ public final class PromiseTest {
         again.crashAfter(MAX);
         Check.due("9: far away", again.write(0, 0, 8), 0);
 
-        HashedStore across = small();
+        HashedStore across = Small.store();
         across.crashAfter(6);
         Check.due("9: over two calls", across.write(0, 0, 9), 0);
         Check.due("9: over two calls", across.write(1, 0, 9), HashedStore.DOWN);
         Check.due("9: six writes", across.writes(), 6);
-        HashedStore none = small();
+        HashedStore none = Small.store();
         none.crashAfter(-1);
         Check.due("9: below 0 tells none", none.write(0, 0, 9), 0);
     }
 
     private static void promise10Recover() {
-        HashedStore s = small();
+        HashedStore s = Small.store();
         int oldRoot = s.root();
         Check.due("10: BAD when up", s.recover(oldRoot), HashedStore.BAD);
         s.crashAfter(2);
         s.write(0, 0, 9);
         Check.due("10: neither", s.recover(1), HashedStore.MISMATCH);
         Check.due("10: stays down", s.down(), true);
-        Check.due("10: the new root is not there yet", s.recover(rootOf(9, 0, 0, 0)), HashedStore.MISMATCH);
+        Check.due("10: the new root is not there yet", s.recover(Small.rootOf(9, 0, 0, 0)), HashedStore.MISMATCH);
         Check.due("10: the old root", s.recover(oldRoot), 0);
         Check.due("10: is up", s.down(), false);
         Check.due("10: slot", s.slot(), 0);
@@ -379,14 +346,14 @@ public final class PromiseTest {
         s.write(0, 1, 1);
         s.crashAfter(0);
         s.write(0, 0, 12);
-        Check.due("10: the second area", s.recover(rootOf(11, 0, 0, 0)), 0);
+        Check.due("10: the second area", s.recover(Small.rootOf(11, 0, 0, 0)), 0);
         Check.due("10: the second area is in use", s.slot(), 1);
-        Check.due("10: its root is kept", s.root(), rootOf(11, 0, 0, 0));
+        Check.due("10: its root is kept", s.root(), Small.rootOf(11, 0, 0, 0));
         Check.due("10: its word", s.read(0, 1), 0);
     }
 
     private static void promise10RecoverTakesTheFirstArea() {
-        HashedStore s = small();
+        HashedStore s = Small.store();
         s.write(0, 0, 9);
         s.write(0, 0, 9);
         s.write(0, 0, 9);
@@ -413,11 +380,11 @@ public final class PromiseTest {
                     new HashedStore(depth, words).cells(), 2 * (blocks * words + 2 * blocks - 1));
             }
         }
-        Check.due("11: also when down", downAfter(0).cells(), 14);
+        Check.due("11: also when down", Small.downAfter(0).cells(), 14);
     }
 
     private static void promise12Peek() {
-        HashedStore s = small();
+        HashedStore s = Small.store();
         for (int addr = 0; addr < s.cells(); addr++) {
             s.tamper(addr, 50 + addr);
         }
@@ -427,11 +394,11 @@ public final class PromiseTest {
         for (int addr : wrong) {
             Check.due("12: none such " + addr, s.peek(addr), 0);
         }
-        Check.due("12: also when down", downAfter(1).peek(7), 9);
+        Check.due("12: also when down", Small.downAfter(1).peek(7), 9);
     }
 
     private static void promise13Writes() {
-        HashedStore s = small();
+        HashedStore s = Small.store();
         s.write(0, 0, 9);
         Check.due("13: a word and three nodes", s.writes(), 4);
         s.write(1, 1, 7);
@@ -444,7 +411,7 @@ public final class PromiseTest {
         Check.due("13: only writes count", s.writes(), 9);
         s.format();
         Check.due("13: from format on", s.writes(), 0);
-        HashedStore down = downAfter(3);
+        HashedStore down = Small.downAfter(3);
         Check.due("13: the lost one is not counted", down.writes(), 3);
         down.write(0, 0, 9);
         Check.due("13: none when down", down.writes(), 3);
@@ -453,7 +420,7 @@ public final class PromiseTest {
     }
 
     private static void promise14Slot() {
-        HashedStore s = small();
+        HashedStore s = Small.store();
         for (int n = 0; n < 6; n++) {
             Check.due("14: slot after " + n, s.slot(), n % 2);
             s.write(n % 2, 0, 20 + n);
@@ -469,7 +436,7 @@ public final class PromiseTest {
     }
 
     private static void promise15Down() {
-        HashedStore s = small();
+        HashedStore s = Small.store();
         Check.due("15: new", s.down(), false);
         s.crashAfter(0);
         Check.due("15: a crash told is not yet one", s.down(), false);
