@@ -1,4 +1,4 @@
-/** Promises 3, 9 and 10, of writes and crashes: a test for each sentence that names a boundary case. */
+/** Writes and crashes, promises 3, 9 and 10: a test for each sentence that names a boundary case. */
 public final class WriteBoundaryTest {
     private static final int MIN = Integer.MIN_VALUE;
     private static final int MAX = Integer.MAX_VALUE;
@@ -26,6 +26,7 @@ public final class WriteBoundaryTest {
         recoverComesUp();
         recoverMismatch();
         recoverBad();
+        crashLeavesAnOldOrANewRoot();
         Check.finish();
     }
 
@@ -337,5 +338,40 @@ public final class WriteBoundaryTest {
         Check.due("the crash stays told", s.write(0, 0, 9), HashedStore.DOWN);
         s.recover(s.root());
         Check.due("up again, BAD again", s.recover(s.root()), HashedStore.BAD);
+    }
+
+    private static void crashLeavesAnOldOrANewRoot() {
+        Check.sentence("What it is", "a write makes the other one of two areas whole,"
+            + " so that a crash leaves an old or a new root");
+        for (int earlier = 0; earlier < 4; earlier++) {
+            int writesOfTheLast = withWrites(earlier + 1).writes() - withWrites(earlier).writes();
+            for (int n = 0; n <= writesOfTheLast; n++) {
+                crashInTheLast(earlier, n, n < writesOfTheLast);
+            }
+        }
+    }
+
+    /** Each write goes to a word of its own, so that no root comes twice. */
+    private static HashedStore withWrites(int count) {
+        HashedStore s = new HashedStore(3, 2);
+        for (int n = 0; n < count; n++) {
+            s.write(5 * n % 8, n % 2, 100 + n);
+        }
+        return s;
+    }
+
+    private static void crashInTheLast(int earlier, int n, boolean isLost) {
+        String name = "write " + (earlier + 1) + ", crash after " + n + ": ";
+        HashedStore s = withWrites(earlier);
+        int oldRoot = s.root();
+        s.crashAfter(n);
+        Check.due(name + "write", s.write(5 * earlier % 8, earlier % 2, 100 + earlier), isLost ? HashedStore.DOWN : 0);
+        Check.due(name + "recover to the old root", s.recover(oldRoot), isLost ? 0 : HashedStore.BAD);
+        HashedStore due = withWrites(isLost ? earlier : earlier + 1);
+        Check.due(name + "root", s.root(), due.root());
+        Check.due(name + "audit", s.audit(), HashedStore.NONE);
+        for (int cell = 0; cell < 16; cell++) {
+            Check.due(name + "word " + cell, s.read(cell / 2, cell % 2), due.read(cell / 2, cell % 2));
+        }
     }
 }
